@@ -1112,10 +1112,18 @@ public final class LanternHall {
             if (token == NOT) {
                 return readPart(reader, depth + 1) && put(-NOT);
             }
-            if (token == OPEN) {
-                return readLevel(reader, 0, depth + 1) && reader.take(CLOSE);
+            if (token != OPEN) {
+                return put(isFact(token) ? -token : number);
             }
-            return put(isFact(token) ? -token : number);
+            if (!readLevel(reader, 0, depth + 1)) {
+                return false;
+            }
+            // Not by take: calls would stand open one deeper than they may.
+            if (reader.token != CLOSE) {
+                return reader.refuse(CANNOT_STAND);
+            }
+            reader.advance();
+            return true;
         }
 
         int dayShown(int day, int left, int far, int hour) {

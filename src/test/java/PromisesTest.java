@@ -64,6 +64,13 @@ public final class PromisesTest {
         counts("new", new LanternHall(), 8, 0, 0, 2, 0, 0, 0, 30, 0, 0, 0, 0, 0, 0, 0, 0);
         counts("empty hall", hall(""), 8, 0, 0, 2, 0, 0, 0, 30, 0, 0, 0, 0, 0, 0, 0, 0);
         same("new shown", new LanternHall().shown(2), 0);
+        same("new light", new LanternHall().light(), 7);
+        same("new days", new LanternHall().days(), 15);
+        same("new ask", new LanternHall().ask(), -1);
+        same("new mark", new LanternHall().mark(0, true), false);
+        same("new undo", new LanternHall().undo(), false);
+        same("new judged", new LanternHall().judged(0), -1);
+        same("new reach", new LanternHall().reach(7), 7);
         same("NONE", LanternHall.NONE, -1);
     }
 
@@ -96,7 +103,9 @@ public final class PromisesTest {
         x.step(-1);
         x.trim(1);
         x.say(0, 5, true);
-        x.mark(2, false);
+        for (int mark = 0; mark < 4; mark++) {
+            x.mark(mark, false);
+        }
         int[] before = {10, 5, 3, 3, 3, 1, 1, 17, 1, 0, x.count(10), 128, 2, 1, 2, 0};
         counts("changed", x, before);
         same("a FAULT", Check.tellHall(x, "cells 3; visitor a"), 1 + 16 * 18);
@@ -105,7 +114,9 @@ public final class PromisesTest {
         same("ivy is still there", x.at(2, 1), 3);
         same("a HALL", Check.tellHall(x, "cells 3; oil 7; guard 2;"), 0);
         counts("all is new", x, 3, 0, 0, 2, 2, 0, 0, 7, 0, 0, 0, 0, 0, 0, 0, 0);
-        same("no MARK", x.mark(2, true), false);
+        for (int mark = 0; mark < 4; mark++) {
+            same("no MARK", x.mark(mark, true), false);
+        }
         same("nothing can be undone", x.undo(), false);
         same("DAYS", x.days(), 15);
         same("nobody", x.visitor(0, 0), -2);
@@ -600,6 +611,12 @@ public final class PromisesTest {
         same("others", x.lonely(4), -1);
         same("others", x.lonely(-1), -1);
         same("rob comes at hour 1", hall("cells 3; visitor a plain on 0 goes 1 7 1 1 1 1 1 1;").lonely(0), 1);
+        StringBuilder six = new StringBuilder("visitor a plain on 2 goes 1 1 1 1 9 1 1 1;");
+        for (char name = 'b'; name <= 'f'; name++) {
+            six.append("visitor ").append(name).append(" lady on 2 goes 1;");
+        }
+        same("five of six at hour 4", hall(six.toString()).lonely(2), 4);
+        same("six in a CELL", hall(six.toString()).crowd(2), 6);
         same("crowd 0", x.crowd(0), 2);
         same("crowd 1", x.crowd(1), 1);
         same("crowd 2", x.crowd(2), 0);
@@ -750,6 +767,8 @@ public final class PromisesTest {
         same("others", x.nights(0, 1, 3), -1);
         same("others", x.nights(0, 1, -1), -1);
         same("99 of 9999", x.nights(9999, 99, 2), 0);
+        // Of the SEED 0 the first is 0: on.
+        same("SEED 0: on", x.nights(0, 1, 1), 1);
         // 9084 below 4 is 0: behind a trim to day 2 the twelfth trims it back to day 0, where a is.
         LanternHall y = hall("oil 40; cells 2; visitor a lady on 0 goes 1;");
         y.trim(2);
