@@ -54,6 +54,20 @@ public final class FaultsTest {
         hall("cells\n5\n;\n", 0, 0);
         hall("cells 5  ", 1, 9);
         hall("7", 1, 0);
+        hall("visitor az lady on 0 goes 1;vase z at 1;vase za at 2;", 0, 0);
+        hall("vase z at 1;vase a at 1;vase az at 1;vase z", 3, 42);
+        hall("vase `a at 1;", 1, 5);
+        hall("vase {a at 1;", 1, 5);
+        hall("oil /1;", 1, 4);
+        hall("oil :1;", 1, 4);
+        LanternHall x = new LanternHall();
+        Check.same("a TAPE", Check.tellHall(x, "cells 2; oil 77"), 1 + 16 * 15);
+        Check.same("nothing of the last TAPE", Check.tellHall(x, "cells 2; oil 7"), 1 + 16 * 14);
+        Check.same("a TAPE", Check.tellHall(x, "cells 2; oily"), 1 + 16 * 9);
+        Check.same("nothing of the last TAPE", Check.tellHall(x, "cells 2; oil"), 1 + 16 * 12);
+        Check.same("a TAPE", Check.tellHall(x, "cells 2; "), 0);
+        Check.same("nothing of the last TAPE", Check.tellHall(x, " ".repeat(995) + "oil 5"), 1 + 16 * 1000);
+        Check.same("nothing of the last TAPE", Check.tellHall(x, " ".repeat(998) + "xx"), 1 + 16 * 998);
     }
 
     private static void hallLines() {
@@ -67,6 +81,11 @@ public final class FaultsTest {
         hall("pillar 11; pillar 11;", 3, 18);
         hall("pillar 11; pillar 12;", 4, 18);
         hall("beam 1;", 0, 0);
+        hall("beam 0;", 4, 5);
+        hall("beam 6;", 4, 5);
+        hall("guard 0;", 0, 0);
+        hall("guard 12;", 4, 6);
+        hall("fellow 12;", 4, 7);
         hall("beam 5; beam", 3, 8);
         hall("oil 0;", 0, 0);
         hall("oil 99; oil", 3, 8);
@@ -80,6 +99,10 @@ public final class FaultsTest {
         hall("visitor a plain on 3 goes 0;visitor b child on 0 goes 0 1 2 3 4 5 6 7;", 0, 0);
         hall("visitor a plain on 4 goes 0;", 4, 19);
         hall("visitor a plain at 3 goes 0;", 1, 16);
+        hall("visitor a not on 3 goes 0;", 1, 10);
+        hall("visitor a fill on 3 goes 0;", 1, 10);
+        hall("visitor a b on 3 goes 0;", 1, 10);
+        hall("visitor a plain on 3 goes 12;", 4, 26);
         hall("visitor a plain on 3 goes 0 1 2 3 4 5 6 7 8;", 5, 42);
         hall("visitor on plain on 3 goes 0;", 1, 8);
         hall("visitor lady lady on 3 goes 0;", 1, 8);

@@ -429,6 +429,8 @@ public final class PromisesTest {
         LanternHall z = hall("cells 6; beam 2; guard 2; visitor a lady on 0 goes 0; visitor b lady on 0 goes 5;");
         same("one way and the other", z.shortest(3), 2);
         same("without steps nothing changes", z.count(8), 0);
+        same("back from the last CELL", hall("cells 12; guard 11; beam 1; visitor a lady on 0 goes 8;").shortest(1), 2);
+        same("on to the last CELLS", hall("cells 12; guard 8; beam 1; visitor a lady on 0 goes 11;").shortest(1), 2);
     }
 
     private static void cover() {
@@ -599,6 +601,11 @@ public final class PromisesTest {
         same("a pillar there already", hall("cells 9; guard 4; beam 4; pillar 5; visitor a lady on 0 goes 2;").blot(), 3);
         same("not in her own CELL", hall("cells 9; guard 4; beam 4; pillar 5; pillar 0; visitor a lady on 0 goes 3;")
                 .blot(), 1);
+        StringBuilder six = new StringBuilder();
+        for (char name = 'a'; name <= 'f'; name++) {
+            six.append("visitor ").append(name).append(" lady on 0 goes 0;");
+        }
+        same("six seen, none can be hidden", hall(six.toString()).blot(), 0);
         same("all pillars", hall("cells 2; pillar 0; pillar 1;").blot(), -1);
         same("no oil: the first", hall("oil 0; visitor a lady on 0 goes 2;").blot(), 0);
     }
