@@ -1,29 +1,54 @@
+import java.util.ArrayList;
+import java.util.List;
 import java.util.NoSuchElementException;
 
 /** Counts wrong answers, and tells TAPEs to a LanternHall as text. */
 final class Check {
     private static int wrong = 0;
     private static int made = 0;
+    private static String sentence = "";
+    private static final List<String> QUOTED = new ArrayList<>();
+    private static final List<Integer> CHECKS_OF = new ArrayList<>();
 
     private Check() {
     }
 
     static void same(String what, long got, long want) {
-        made++;
-        if (got != want) {
-            wrong++;
-            if (wrong <= 40) {
-                System.out.println(what + ": answered " + got + ", due is " + want);
-            }
-        }
+        same(what, Long.toString(got), Long.toString(want));
     }
 
     static void same(String what, boolean got, boolean want) {
         same(what, got ? 1 : 0, want ? 1 : 0);
     }
 
-    static void fails(String what) {
-        same(what, 1, 0);
+    static void same(String what, String got, String want) {
+        made++;
+        if (!CHECKS_OF.isEmpty()) {
+            int last = CHECKS_OF.size() - 1;
+            CHECKS_OF.set(last, CHECKS_OF.get(last) + 1);
+        }
+        if (!got.equals(want)) {
+            wrong++;
+            if (wrong <= 40) {
+                System.out.println(sentence + what + ": answered " + got + ", due is " + want);
+            }
+        }
+    }
+
+    /** The words of the document that the checks from here on are of. */
+    static void sentence(String text) {
+        sentence = "[" + text + "] ";
+        QUOTED.add(text);
+        CHECKS_OF.add(0);
+    }
+
+    static List<String> quoted() {
+        return QUOTED;
+    }
+
+    /** How many checks were made of the sentence with this place in quoted(). */
+    static int checksOf(int place) {
+        return CHECKS_OF.get(place);
     }
 
     /** Behind the TAPE, by as many calls of feed as it needs. */
@@ -65,6 +90,33 @@ final class Check {
         } catch (NoSuchElementException e) {
             return THREW;
         }
+    }
+
+    /** What the object answers now, by 106 calls: three of these leave room for others within its 512. */
+    static String state(LanternHall x) {
+        StringBuilder told = new StringBuilder("count");
+        for (int what = 0; what < 16; what++) {
+            told.append(' ').append(x.count(what));
+        }
+        for (int i = 0; i < 6; i++) {
+            told.append(" visitor ").append(x.visitor(i, 0)).append(' ').append(x.visitor(i, 1));
+            told.append(' ').append(x.visitor(i, 2)).append(' ').append(x.visitor(i, 3));
+            told.append(' ').append(x.visitor(i, 4)).append(" at ").append(x.at(i, 0)).append(' ').append(x.at(i, 7));
+        }
+        for (int i = 0; i < 4; i++) {
+            told.append(" vase ").append(x.vase(i, 0)).append(' ').append(x.vase(i, 1));
+            told.append(" gap ").append(x.gap(i));
+        }
+        for (int cell = 0; cell < 12; cell++) {
+            told.append(" shown ").append(x.shown(cell));
+        }
+        told.append(" light ").append(x.light()).append(' ').append(x.sees()).append(' ').append(x.treasures());
+        told.append(" judged ").append(x.judged(0)).append(' ').append(x.judged(1)).append(' ').append(x.judged(2));
+        told.append(" days ").append(x.days()).append(' ').append(x.ask()).append(" never ").append(x.never());
+        for (int hours = 0; hours < 8; hours++) {
+            told.append(" fellow ").append(x.fellow(hours));
+        }
+        return told.append(" meet ").append(x.meet()).append(" nights ").append(x.nights(7, 40, 0)).toString();
     }
 
     static void end(String name) {
