@@ -92,7 +92,7 @@ final class Check {
         }
     }
 
-    /** What the object answers now, by 106 calls: three of these leave room for others within its 512. */
+    /** What the object answers now, by some hundred calls: three of these leave room for others within its 512. */
     static String state(LanternHall x) {
         StringBuilder told = new StringBuilder("count");
         for (int what = 0; what < 16; what++) {

@@ -173,6 +173,9 @@ final class LampSentences {
         same("neither is there", rested(z, 1).sees(), 0);
         same("above 3 is 3", hall("visitor a lady on 3 goes 1; shows 99;").sees(), 1);
         same("below 0 is 0", hall("visitor a lady on 0 goes 1; shows 0-99;").sees(), 1);
+        LanternHall off = hall("guard 4; beam 3; shows far; visitor a thief on 1 goes 3; visitor b thief on 3 goes 7;"
+                + "visitor c thief on 0 goes 2; vase v at 3; vase w at 7; vase u at 2; vase t at 4;");
+        same("vases by the days that their CELLS show", off.treasures(), 0b1100);
         same("a vase of the day shown", hall("vase v at 1; visitor a thief on 3 goes 1; shows 99;").treasures(), 0);
         same("not of the day trimmed", hall("vase v at 1; visitor a thief on 0 goes 1; shows 99;").treasures(), 1);
         same("in a pillar", hall("pillar 1; visitor a lady on 0 goes 1; visitor b lady on 0 goes 2;").sees(), 1);
@@ -410,6 +413,13 @@ final class LampSentences {
         same("b is not seen", x.count(10), 0);
         judge(x, "rest;", -1, -1, 1);
         judge(x, "rest; on;", -1, 1, 1);
+        LanternHall back = hall("guard 5; beam 1; visitor a lady on 0 goes 1; visitor b lady on 0 goes 3;"
+                + "visitor c lady on 0 goes 7;");
+        judge(back, "back;", -1, -1, 0b010);
+        judge(back, "back; back;", -1, 1, 0b010);
+        judge(back, "on; back;", -1, -1, 0b100);
+        judge(back, "on; on;", -1, 1, 0b100);
+        judge(back, "back; on; on;", -1, -1, 0b110);
         same("nothing is done", x.count(8), 7);
         sentence("the first line (from 0) that can't be (trim without two oil; the rest always can; lines that can't be"
                 + " are left out);");
@@ -433,6 +443,16 @@ final class LampSentences {
         sentence("who was SEEN at last, as bits.");
         judge(y, "fill 9; rest; trim 1; rest; rest;", -1, -1, 3);
         judge(y, "fill 9; trim 1; trim 0;", -1, -1, 0);
+        LanternHall full = hall("oil 98; visitor a lady on 1 goes 0; shows left = 98;");
+        judge(full, "fill 1; rest;", -1, -1, 1);
+        judge(full, "fill 99; rest;", -1, -1, 1);
+        judge(full, "fill 99; rest; rest; fill 1;", -1, -1, 1);
+        judge(full, "rest; rest;", -1, -1, 0);
+        LanternHall round = hall("visitor a plain on 0 goes 1;");
+        judge(round, "rest;".repeat(7), -1, -1, 0);
+        judge(round, "rest;".repeat(8), -1, -1, 1);
+        judge(round, "rest;".repeat(8) + "on;", -1, 8, 1);
+        judge(round, "rest;".repeat(9) + "on;", -1, -1, 1);
         judge(y, "", -1, -1, 0);
     }
 
@@ -455,6 +475,15 @@ final class LampSentences {
         LanternHall round = hall("cells 2; beam 1; oil 99; visitor a plain on 0 goes 1;");
         same("the next hour 0", round.shortest(1), 8);
         same("from now on", rested(round, 5).shortest(1), 3);
+        same("from the first CELL alone", hall("beam 1; pillar 1; visitor a lady on 0 goes 0;").shortest(1), 1);
+        same("from the last CELL alone", hall("cells 12; guard 11; beam 1; pillar 10; visitor a lady on 0 goes 11;")
+                .shortest(1), 1);
+        same("out of the last CELL", hall("cells 12; guard 11; beam 1; visitor a lady on 0 goes 0;").shortest(1), 10);
+        same("to the last CELL", hall("cells 12; beam 1; visitor a lady on 0 goes 11;").shortest(1), 10);
+        same("into the last CELL", hall("cells 12; guard 10; oil 9; visitor a lady on 1 goes 11; shows far = 0;")
+                .shortest(1), 1);
+        same("a bump by the day shown there", hall("beam 1; oil 9; visitor a plain on 1 goes 1 1; visitor b lady on 0 goes 1;"
+                + "shows far;").shortest(2), 3);
         sentence("(who was SEEN counts; at most 40).");
         y.step(-1);
         same("a was SEEN", y.shortest(1), 0);
@@ -630,7 +659,7 @@ final class LampSentences {
 
     private static void best() {
         sentence("BEST: the CELL without a pillar from which, now, the most VISITORS would be SEEN with this oil, day,"
-                + " hour;");
+                + " hour; of equal ones the first.");
         LanternHall x = hall("cells 12; beam 1; visitor a plain on 0 goes 5 0; visitor b plain on 0 goes 7 11;"
                 + "visitor c lady on 1 goes 9 10; visitor d lady on 0 goes 11;");
         same("between a and b", x.best(), 6);
@@ -640,13 +669,17 @@ final class LampSentences {
         same("day 1", x.best(), 9);
         same("with this oil", hall("oil 5; visitor a lady on 2 goes 7; visitor b lady on 0 goes 0; visitor c lady on 2 goes 6;"
                 + "shows (left = 5) * 2;").best(), 5);
+        same("5, 6, 7 see two", hall("cells 12; beam 1; visitor a lady on 0 goes 6; visitor b lady on 0 goes 2;"
+                + "visitor c lady on 0 goes 6;").best(), 5);
+        same("nobody", hall("cells 12; guard 4;").best(), 0);
+        same("pillars in the first", hall("cells 12; pillar 0; pillar 1;").best(), 2);
         same("a pillar is no place", hall("cells 9; beam 1; pillar 4; visitor a lady on 0 goes 3; visitor b lady on 0 goes 5;"
                 + "visitor c lady on 0 goes 6;").best(), 5);
         same("the last CELL", hall("cells 12; beam 1; pillar 10; visitor a lady on 0 goes 11;").best(), 11);
     }
 
     private static void lonely() {
-        sentence("LONELY: the hour at which the fewest VISITORS of a day are there;");
+        sentence("LONELY: the hour at which the fewest VISITORS of a day are there; of equal ones the first.");
         LanternHall x = hall("cells 5; visitor a plain on 1 goes 1 1 1 1 1 1 1 1; visitor b plain on 1 goes 1 1 1 1 1 1 1;"
                 + "visitor c lady on 2 goes 5 5 5 1; visitor d lady on 2 goes 0; visitor e plain on 3 goes 0 0 5 0 0 0 0 0;"
                 + "visitor f plain on 0 goes 5 1 1 1 1 1 1 1;");
@@ -655,6 +688,11 @@ final class LampSentences {
         same("hour 0", x.lonely(0), 0);
         same("of equal ones the first", x.lonely(2), 0);
         same("nobody at all", hall("").lonely(3), 0);
+        StringBuilder six = new StringBuilder("visitor a plain on 2 goes 1 1 1 1 9 1 1 1;");
+        for (char name = 'b'; name <= 'f'; name++) {
+            six.append("visitor ").append(name).append(" lady on 2 goes 1;");
+        }
+        same("five of six", hall(six.toString()).lonely(2), 4);
     }
 
     private static void crowd() {
@@ -668,6 +706,8 @@ final class LampSentences {
         same("not of two hours", hall("visitor a plain on 0 goes 1 2; visitor b plain on 0 goes 2 1;").crowd(0), 1);
         same("not of two days", hall("visitor a plain on 0 goes 1; visitor b plain on 1 goes 1;").crowd(0), 1);
         same("not beyond", hall("cells 5; visitor a plain on 0 goes 5; visitor b plain on 0 goes 5;").crowd(0), 0);
+        same("in the first CELL", hall("visitor a plain on 0 goes 0; visitor b plain on 0 goes 0;").crowd(0), 2);
+        same("in the last CELL", hall("visitor a plain on 0 goes 7; visitor b plain on 0 goes 7;").crowd(0), 2);
     }
 
     private static void alibi() {
@@ -697,7 +737,8 @@ final class LampSentences {
     }
 
     private static void blot() {
-        sentence("BLOT: the CELL without a pillar in which a pillar more would hide the most VISITORS who are seen now;");
+        sentence("BLOT: the CELL without a pillar in which a pillar more would hide the most VISITORS who are seen now;"
+                + " of equal ones the first.");
         LanternHall x = hall("cells 12; beam 5; guard 5; visitor a lady on 0 goes 0; visitor b lady on 0 goes 8;"
                 + "visitor c lady on 0 goes 10; visitor d lady on 0 goes 11;");
         same("6 hides b and c", x.blot(), 6);
@@ -709,6 +750,13 @@ final class LampSentences {
         same("who is hidden already", hall("cells 12; beam 5; guard 5; pillar 7; visitor a lady on 0 goes 8;").blot(), 0);
         same("not all seen: beyond the beam", hall("cells 12; beam 2; guard 5; visitor a lady on 0 goes 9;").blot(), 0);
         same("without oil the first", hall("oil 0; pillar 0; visitor a lady on 0 goes 2;").blot(), 1);
+        StringBuilder five = new StringBuilder();
+        for (char name = 'a'; name <= 'e'; name++) {
+            five.append("visitor ").append(name).append(" lady on 0 goes 0;");
+        }
+        same("of six none", hall(five + "visitor f lady on 0 goes 0;").blot(), 0);
+        same("of six one", hall(five + "visitor f lady on 0 goes 2;").blot(), 1);
+        same("of six all", hall("guard 2;" + five + "visitor f lady on 0 goes 0;").blot(), 1);
         same("the last CELL alone", hall("cells 3; pillar 0; pillar 1;").blot(), 2);
         same("all have pillars", hall("cells 3; pillar 0; pillar 1; pillar 2;").blot(), -1);
     }
@@ -783,6 +831,9 @@ final class LampSentences {
         later.step(0);
         same("40 from then on", later.reach(1), 40);
         same("no oil, no bump", hall("oil 0; visitor a lady on 0 goes 1;").reach(1), 1);
+        same("by the day shown there", hall("oil 9; visitor a lady on 1 goes 1; shows far;").reach(1), 10);
+        same("not by his own CELL's", hall("visitor a lady on 0 goes 1; shows far;").reach(1), 1);
+        same("nor the next but one's", hall("visitor a lady on 2 goes 1; shows far;").reach(1), 1);
     }
 
     private static void census() {
@@ -798,7 +849,7 @@ final class LampSentences {
 
     private static void choose() {
         sentence("CHOOSE: the day to which to TRIM now, if it can be, so that the most VISITORS are seen then (two oil"
-                + " less);");
+                + " less); of equal ones the first.");
         String four = "visitor a lady on 1 goes 1; visitor b lady on 3 goes 1; visitor c lady on 3 goes 2;";
         same("day 3", hall(four).choose(), 3);
         same("with two oil it is dark then", hall("oil 2;" + four).choose(), 0);
@@ -884,14 +935,20 @@ final class LampSentences {
         int[] lengths = {1, 2, 98, 99};
         for (int seed : seeds) {
             for (int steps : lengths) {
-                byDraws(seed, steps);
+                byDraws(seed, steps, 60);
             }
+        }
+        // The SEED 1 trims at its twelfth step: with each oil that may be left then, none, one, two and more.
+        for (int oil = 9; oil <= 16; oil++) {
+            byDraws(1, 11, oil);
+            byDraws(1, 12, oil);
+            byDraws(1, 13, oil);
         }
     }
 
     /** The same night by hand, on an object of its own. */
-    private static void byDraws(int seed, int steps) {
-        String text = "cells 6; oil 60; guard 2; visitor a child on 0 goes 3 1 4; visitor b lady on 1 goes 0;"
+    private static void byDraws(int seed, int steps, int oil) {
+        String text = "cells 6; oil " + oil + "; guard 2; visitor a child on 0 goes 3 1 4; visitor b lady on 1 goes 0;"
                 + "visitor c plain on 2 goes 1 2 3 4 5 4 3 2; visitor d thief on 3 goes 5 4 3 2 1 0;";
         LanternHall x = hall(text);
         LanternHall hand = hall(text);
@@ -908,7 +965,7 @@ final class LampSentences {
             }
             hand.step(act <= 2 ? 1 : act <= 5 ? -1 : 0);
         }
-        String told = "seed " + seed + ", " + steps + " steps: ";
+        String told = "seed " + seed + ", " + steps + " steps, " + oil + " oil: ";
         String before = counts(x);
         same(told + "SEEN", x.nights(seed, steps, 0), hand.count(10));
         same(told + "bumps", x.nights(seed, steps, 1), hand.count(9) - ahead);

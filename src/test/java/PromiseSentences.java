@@ -530,13 +530,10 @@ final class PromiseSentences {
     }
 
     private static void best() {
-        sentence("of equal ones the first.");
-        LanternHall x = hall("cells 12; beam 1; visitor a lady on 0 goes 6; visitor b lady on 0 goes 2; visitor c lady on 0 goes 6;");
-        same("5, 6, 7 see two", x.best(), 5);
-        same("nobody", hall("cells 12; guard 4;").best(), 0);
-        same("a pillar in the first", hall("cells 12; pillar 0; pillar 1;").best(), 2);
         sentence("BEST; NONE: all CELLS have pillars.");
         same("all", hall("cells 2; guard 1; pillar 0; pillar 1;").best(), -1);
+        same("all but the last", hall("cells 2; pillar 0;").best(), 1);
+        same("all but the first", hall("cells 2; pillar 1;").best(), 0);
         same("beyond the last they are not", hall("cells 2; pillar 0; pillar 2; pillar 3;").best(), 1);
     }
 

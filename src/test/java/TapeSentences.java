@@ -1,3 +1,6 @@
+import java.util.ArrayList;
+import java.util.List;
+
 /** The Terms, as far as they tell how a TAPE is read: each sentence at its boundary, and one beyond it. */
 final class TapeSentences {
     private static final String[] WORDS = {"cells", "pillar", "visitor", "on", "goes", "vase", "at", "beam", "oil", "guard",
@@ -534,8 +537,29 @@ final class TapeSentences {
         noHall(ladies(6) + "vase f at 1;", 3, ladies(6).length() + 5);
         String vases = "vase g at 1;vase h at 1;vase i at 1;vase j at 1;";
         noHall(vases + ladies(5) + "visitor j", 3, vases.length() + ladies(5).length() + 8);
+        alike();
         LanternHall x = Check.hall("vase a at 1;");
         same("NAMES of another HALL are free", Check.tellHall(x, "visitor a lady on 0 goes 1;"), 0);
+    }
+
+    /** Of each two of these one letter is another one, stands elsewhere, or is one more. */
+    private static void alike() {
+        String[] near = {"a", "b", "p", "q", "z", "ab", "ba", "aa", "az", "za", "ap", "pa", "bp", "qa", "aab", "aba", "baa",
+            "zzz", "azz", "aaaaaaaa", "aaaaaaab", "baaaaaaa", "aaaabaaa", "paaaaaaa", "aaaaaaap", "zzzzzzzz", "zzzzzzz"};
+        List<String> names = new ArrayList<>(List.of(near));
+        for (char letter = 'a'; letter <= 'z'; letter++) {
+            names.add(letter + "x");
+            names.add("x" + letter + "y");
+        }
+        for (String first : names) {
+            for (String second : names) {
+                if (first.equals(second)) {
+                    noHall("vase " + first + " at 1;vase " + second, 3, first.length() + 16);
+                } else {
+                    isHall("vase " + first + " at 1;vase " + second + " at 1;");
+                }
+            }
+        }
     }
 
     private static void lawsFromTheLeft() {
@@ -608,6 +632,11 @@ final class TapeSentences {
         noHall("shows 1 * ;", 1, 10);
         noHall("shows 1 * * 1;", 1, 10);
         shows("2" + "*1".repeat(496), 2);
+        LanternHall x = new LanternHall();
+        for (int want = 3; want >= 0; want--) {
+            same("a long one behind another", Check.tellHall(x, "shows " + want + "+1-1".repeat(248) + ";"), 0);
+            same("shows", x.shown(0), want);
+        }
     }
 
     private static void parts() {
@@ -619,6 +648,11 @@ final class TapeSentences {
         shows("not 0 + 1", 2);
         shows("not (0 + 1)", 0);
         shows("not 0 * 2", 2);
+        LanternHall later = Check.hall("shows 0;");
+        later.trim(2);
+        later.step(0);
+        later.step(0);
+        same("0 is 0 at all hours", later.shown(0), 0);
         shows("not 1 = 0", 1);
         shows("not not 3", 1);
         shows("(2)", 2);
@@ -886,6 +920,23 @@ final class TapeSentences {
         same("an empty HALL is one too", y.hall(), 0);
         same("nothing", y.count(1), 0);
         same("no MARK", y.mark(3, true), false);
+        nothingOfOthers();
+    }
+
+    /** Nothing that an earlier HALL told, or one with a FAULT, is told by the next ones. */
+    private static void nothingOfOthers() {
+        String rich = "cells 12; beam 5; oil 9; guard 7; pillar 3; fellow 2; visitor a lady on 0 goes 1; vase v at 1; shows 3;";
+        String nothing = Check.state(new LanternHall());
+        LanternHall x = new LanternHall();
+        same("a rich one", Check.tellHall(x, rich), 0);
+        same("an empty one", x.hall(), 0);
+        Check.same("nothing", Check.state(x), nothing);
+        same("another empty one", x.hall(), 0);
+        Check.same("nothing", Check.state(x), nothing);
+        same("a rich one with a FAULT", Check.tellHall(x, rich + "?"), 1 + 16 * rich.length());
+        same("an empty one", x.hall(), 0);
+        same("another empty one", x.hall(), 0);
+        Check.same("nothing", Check.state(x), nothing);
     }
 
     private static LanternHall worn() {
