@@ -1049,7 +1049,7 @@ public final class LanternHall {
         private int length;
 
         void clear() {
-            length = 0;
+            empty();
             put(-DAY);
         }
 
@@ -1061,13 +1061,13 @@ public final class LanternHall {
             return true;
         }
 
-        boolean readFrom(Reader reader) {
+        /** An E that is told takes the place of the one that stands without shows. */
+        void empty() {
             length = 0;
-            return readLevel(reader, 0, 0);
         }
 
-        /** Levels: 0 and, or; 1 one < or =; 2 + and -; 3 *; 4 a PART. */
-        private boolean readLevel(Reader reader, int level, int depth) {
+        /** An E is of level 0. Levels: 0 and, or; 1 one < or =; 2 + and -; 3 *; 4 a PART. */
+        boolean readLevel(Reader reader, int level, int depth) {
             if (level >= PART_LEVEL) {
                 return readPart(reader, depth);
             }
@@ -1357,7 +1357,8 @@ public final class LanternHall {
                 case FELLOW:
                     return takeOnce(word) && readFellow();
                 case SHOWS:
-                    return takeOnce(word) && hall.law.readFrom(reader);
+                    hall.law.empty();
+                    return takeOnce(word) && hall.law.readLevel(reader, 0, 0);
                 case CELLS:
                 case BEAM:
                 case OIL:
